@@ -35,11 +35,11 @@ public final class HearthsTest {
         CHECKS.aboutDue(x, 0, 7, 17, 0, 10, 0, 900);
         CHECKS.due("raise(1, 1023)", x.raise(1, 1023), 0);
         CHECKS.aboutDue(x, 1, 0, 1023, -1, -1, 0, -1);
-        raiseMovesBucketByBucket();
+        raiseKeepsTheOrder();
     }
 
-    // Embers of two buckets come into one: those of the lesser bucket come first.
-    private static void raiseMovesBucketByBucket() {
+    // An ember whose bucket stays the same is moved too; those that come into one bucket keep their order.
+    private static void raiseKeepsTheOrder() {
         RadixHearth x = new RadixHearth();
         x.raise(0, 12);
         Checks.light(x, 0, 20, 14, 23, 15, 18);
@@ -171,6 +171,12 @@ public final class HearthsTest {
     private static void promise11About() {
         RadixHearth x = new RadixHearth();
         CHECKS.aboutDue(x, 0, 0, 0, -1, -1, 0, -1);
+        RadixHearth lowest = new RadixHearth();
+        lowest.raise(1, 30);
+        lowest.light(1, 30);
+        CHECKS.aboutDue(lowest, 1, 1, 30, 0, 0, 0, 30);
+        lowest.light(1, 31);
+        CHECKS.aboutDue(lowest, 1, 2, 30, 0, 1, 0, 31);
         Checks.light(x, 0, 600, 1, 900, 70, 0, 899);
         CHECKS.aboutDue(x, 0, 6, 0, 0, 10, 0, 900);
         CHECKS.aboutDue(x, 1, 0, 0, -1, -1, 0, -1);

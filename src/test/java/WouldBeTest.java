@@ -10,6 +10,7 @@ public final class WouldBeTest {
         promise15MovesRefuses();
         promise16Highest();
         promise17Advise();
+        promises14To17AtTheLow();
         promise17AdviseRefuses();
         promise18Mean();
         promise19Digest();
@@ -119,6 +120,26 @@ public final class WouldBeTest {
             x.quench(ember);
             CHECKS.due("moves without " + ember, x.moves(0, ADVISED.length - 1), due[ember]);
         }
+    }
+
+    // What would be starts from the low and the bucket 0 as they are, whatever was asked of before.
+    private static void promises14To17AtTheLow() {
+        RadixHearth x = new RadixHearth();
+        x.raise(0, 21);
+        Checks.light(x, 0, 22, 21, 23, 21);
+        Checks.light(x, 1, 512, 3);
+        CHECKS.due("moves(1, 2)", x.moves(1, 2), 2);
+        CHECKS.due("advise(1)", x.advise(1), 4);
+        CHECKS.due("moves(0, 2)", x.moves(0, 2), 0);
+        CHECKS.due("moves(0, 4)", x.moves(0, 4), 3);
+        CHECKS.due("next(0, 0)", x.next(0, 0), 1);
+        CHECKS.due("next(0, 1)", x.next(0, 1), 3);
+        CHECKS.due("next(0, 2)", x.next(0, 2), 0);
+        CHECKS.due("next(0, 3)", x.next(0, 3), 2);
+        CHECKS.due("advise(0)", x.advise(0), 0);
+        CHECKS.due("highest(0)", x.highest(0), 21);
+        x.quench(0);
+        CHECKS.due("moves(0, 3) without 0", x.moves(0, 3), 1);
     }
 
     private static void promise17AdviseRefuses() {
