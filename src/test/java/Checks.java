@@ -47,7 +47,7 @@ final class Checks {
     }
 
     /** Whether the class itself threw, rather than the machine or the library in it. */
-    private static boolean thrownBy(RuntimeException thrown) {
+    static boolean thrownBy(RuntimeException thrown) {
         StackTraceElement[] trace = thrown.getStackTrace();
         String text = String.valueOf(thrown.getMessage());
         return trace.length > 0

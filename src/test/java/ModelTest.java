@@ -1,10 +1,13 @@
 import java.util.Random;
 
-/** Long runs of calls, drawn from fixed seeds, on the class and on the model: all promises at once. */
+/**
+ * Long runs of calls, drawn from fixed seeds, on the class and on the model: all promises at once. With the
+ * digest() behind each step a run has the 512 calls for which an object is used.
+ */
 public final class ModelTest {
     private static final Checks CHECKS = new Checks();
-    private static final int RUNS = 400;
-    private static final int CALLS = 512;
+    private static final int RUNS = 800;
+    private static final int STEPS = 256;
     private static final int[] FAR_OFF = {-1, 2, 40, 1024, -1024, Integer.MAX_VALUE, Integer.MIN_VALUE};
 
     private final RadixHearth real = new RadixHearth();
@@ -26,7 +29,7 @@ public final class ModelTest {
     }
 
     private void play(int seed) {
-        for (int call = 0; call < CALLS; call++) {
+        for (int call = 0; call < STEPS; call++) {
             run = "run " + seed + ", call " + call + ": ";
             step(random.nextInt(30));
             CHECKS.due(run + "digest()", real.digest(), model.digest());
