@@ -189,6 +189,22 @@ public final class HearthsEdgesTest {
             new Twins(CHECKS, () -> poured(heats)).state("pour(1)", x -> x.pour(1));
         }
         new Twins(CHECKS, HearthsEdgesTest::aloneBelow1023).state("pour(0) of 1022", x -> x.pour(0));
+        pourOfOneTooColdInABucket();
+    }
+
+    // The low of the other hearth is 70; 64 to 127 lie in one bucket, so the cold one may stand anywhere in it.
+    private static void pourOfOneTooColdInABucket() {
+        int[][] rows = {{69, 90, 127}, {90, 69, 127}, {90, 127, 69}, {70, 69}, {900, 90, 69}};
+        for (int[] heats : rows) {
+            new Twins(CHECKS, () -> besideLow70(heats)).state("pour(0)", x -> x.pour(0));
+        }
+        CHECKS.due("pour(0), none too cold", besideLow70(90, 70, 127).pour(0), 3);
+    }
+
+    private static RadixHearth besideLow70(int... heats) {
+        RadixHearth x = lit(heats);
+        x.raise(1, 70);
+        return x;
     }
 
     private static RadixHearth aloneBelow1023() {
